@@ -231,9 +231,10 @@ public final class RainRead {
       return STATE;
     }
     trial.become(now);
+    int all = now.beginnings();
     int found = 0;
     int first = NONE;
-    for (int b = 0; b < now.beginnings(); b++) {
+    for (int b = 0; b < all; b++) {
       trial.beginBy(b);
       fall.workOut(trial);
       if (fall.hanging == 0 && fall.mud == 0) {
@@ -252,9 +253,10 @@ public final class RainRead {
       return STATE;
     }
     trial.become(now);
+    int all = now.beginnings();
     int greatest = -1;
     int first = NONE;
-    for (int b = 0; b < now.beginnings(); b++) {
+    for (int b = 0; b < all; b++) {
       trial.beginBy(b);
       fall.workOut(trial);
       if (fall.wetOfAll() > greatest) {
@@ -301,9 +303,9 @@ public final class RainRead {
     trial.become(now);
     int fewest = NONE;
     for (int hours = 0; hours < 1 << HOURS; hours++) {
-      int many = Integer.bitCount(hours);
-      if ((fewest == NONE || many < fewest) && savesBy(hours, set, v)) {
-        fewest = many;
+      int count = Integer.bitCount(hours);
+      if ((fewest == NONE || count < fewest) && savesBy(hours, set, v)) {
+        fewest = count;
       }
     }
     return fewest;
@@ -415,53 +417,36 @@ public final class RainRead {
   }
 
   public int kinds(int c) {
-    if (!isCrier(c)) {
-      return UNKNOWN;
-    }
-    trial.become(now);
-    int found = 0;
-    for (int kind = PLAIN; kind <= CHANTING; kind++) {
-      trial.kindOf[c] = kind;
-      found |= bitIfAllRead(kind);
-    }
-    return found;
+    return isCrier(c) ? fitting(c, trial.kindOf, PLAIN, CHANTING) : UNKNOWN;
   }
 
   public int paces(int c) {
-    if (!isCrier(c)) {
-      return UNKNOWN;
-    }
-    trial.become(now);
-    int found = 0;
-    for (int pace = 1; pace <= MOST_PACE; pace++) {
-      trial.paceOf[c] = pace;
-      found |= bitIfAllRead(pace);
-    }
-    return found;
+    return isCrier(c) ? fitting(c, trial.paceOf, 1, MOST_PACE) : UNKNOWN;
   }
 
   public int starts(int c) {
-    if (!isCrier(c)) {
-      return UNKNOWN;
-    }
+    return isCrier(c) ? fitting(c, trial.startOf, 0, now.lineCount - 1) : UNKNOWN;
+  }
+
+  /** The numbers least .. greatest that a row of the trial SHOWER may have for a CRIER, so that all READINGS are so. */
+  private int fitting(int c, int[] partOf, int least, int greatest) {
     trial.become(now);
     int found = 0;
-    for (int l = 0; l < now.lineCount; l++) {
-      trial.startOf[c] = l;
-      found |= bitIfAllRead(l);
+    for (int v = least; v <= greatest; v++) {
+      partOf[c] = v;
+      fall.workOut(trial);
+      found |= allReadingsAreSo() ? 1 << v : 0;
     }
     return found;
   }
 
-  /** The bit of a number, if all READINGS are so by the trial SHOWER; else 0. */
-  private int bitIfAllRead(int number) {
-    fall.workOut(trial);
+  private boolean allReadingsAreSo() {
     for (int k = 0; k < readingCount; k++) {
       if (fall.wetOf[readingField[k]] != readingWet[k]) {
-        return 0;
+        return false;
       }
     }
-    return 1 << number;
+    return true;
   }
 
   public long odds(int f, int v, int which) {

@@ -76,6 +76,11 @@ public final class BetterTest {
     RainRead one = Check.of("s,53;p10");
     C.due("one line", one.strayed(0, 0), 1);
     C.due("its field", one.strayed(0, 1), 8);
+    RainRead drop = Check.of("s,10;p10");
+    C.due("one drop is wet", drop.strayed(0, 1), 1);
+    drop.print(0, 0);
+    C.due("no drop falls", drop.strayed(0, 0), 1);
+    C.due("and wets nothing", drop.strayed(0, 1), 0);
   }
 
   private static void saved() {
