@@ -1,7 +1,5 @@
-import java.lang.reflect.InvocationTargetException;
 import java.lang.reflect.Method;
 import java.util.ArrayList;
-import java.util.Arrays;
 import java.util.List;
 import java.util.Random;
 
@@ -14,17 +12,14 @@ public final class ModelTest {
     65536, Integer.MAX_VALUE - 1, Integer.MAX_VALUE};
 
   private final Random random;
-  private final RainRead real = new RainRead();
-  private final Model model = new Model();
-  private final List<String> told = new ArrayList<>();
+  private final Both both = new Both(C);
   private int calls;
-  private boolean differed;
 
   private ModelTest(int seed) {
     random = new Random(seed);
   }
 
-  public static void main(String[] args) throws Exception {
+  public static void main(String[] args) {
     for (int seed = 0; seed < RUNS; seed++) {
       new ModelTest(seed).run(methods());
     }
@@ -43,11 +38,11 @@ public final class ModelTest {
     return all;
   }
 
-  private void run(List<Method> methods) throws Exception {
+  private void run(List<Method> methods) {
     if (random.nextInt(10) > 0) {
       tellShower();
     }
-    while (calls < CALLS && !differed) {
+    while (calls < CALLS && !both.differed()) {
       int draw = random.nextInt(120);
       if (draw == 0) {
         tellShower();
@@ -61,7 +56,7 @@ public final class ModelTest {
   }
 
   /** A TEXT, mostly a right one, written cell by cell. */
-  private void tellShower() throws Exception {
+  private void tellShower() {
     StringBuilder text = new StringBuilder("s");
     int lines = 1 + random.nextInt(6);
     for (int l = 0; l < lines; l++) {
@@ -94,7 +89,7 @@ public final class ModelTest {
     }
   }
 
-  private void tellDay() throws Exception {
+  private void tellDay() {
     int pairs = random.nextInt(7);
     int sheet = random.nextInt(4);
     int lane = random.nextInt(3);
@@ -118,38 +113,16 @@ public final class ModelTest {
     }
     if (m.getName().equals("reading") && random.nextInt(2) == 0) {
       args[0] = random.nextInt(4);
-      args[1] = Math.max(0, real.wet(args[0]));
+      args[1] = Math.max(0, both.real.wet(args[0]));
       calls++;
     }
     return args;
   }
 
-  private void call(String name, int... args) throws Exception {
-    if (calls >= CALLS || differed) {
-      return;
-    }
-    calls++;
-    told.add(name + Arrays.toString(args));
-    long got = answer(real, name, args);
-    long due = answer(model, name, args);
-    C.due(told.get(told.size() - 1), got, due);
-    if (got != due) {
-      differed = true;
-      System.out.println("the run: " + told);
-    }
-  }
-
-  private static long answer(Object of, String name, int[] args) throws Exception {
-    Class<?>[] types = new Class<?>[args.length];
-    Object[] values = new Object[args.length];
-    for (int k = 0; k < args.length; k++) {
-      types[k] = int.class;
-      values[k] = args[k];
-    }
-    try {
-      return ((Number) of.getClass().getDeclaredMethod(name, types).invoke(of, values)).longValue();
-    } catch (InvocationTargetException e) {
-      throw new IllegalStateException(of.getClass() + "." + name + Arrays.toString(args) + " threw", e.getCause());
+  private void call(String name, int... args) {
+    if (calls < CALLS && !both.differed()) {
+      calls++;
+      both.call(name, args);
     }
   }
 }
