@@ -204,6 +204,12 @@ public final class BetterEdgeTest {
 
   private static void savedRefused() {
     C.says(14, "SAVED: how many; NONE");
+    RainRead changed = Check.of("s,50,31;p10");
+    C.due("as it was", changed.saved(1, 5), 0);
+    changed.print(0, 6);
+    C.due("more drops", changed.saved(1, 5), 1);
+    changed.begin(0, 1);
+    C.due("it hangs", changed.saved(1, 0), 0);
     RainRead x = Room.wet();
     C.due("no field", x.saved(0, 0), 0);
     C.due("all fields, dry", x.saved(15, 0), 2);

@@ -68,6 +68,7 @@ final class Room {
     for (int what = 0; what < 5; what++) {
       s.append(' ').append(x.many(what));
     }
+    tellBetter(x, s);
     for (int k = 0; k < 6 * 5; k++) {
       s.append(k % 5 == 0 ? " line " : " ").append(x.ofLine(k / 5, k % 5));
     }
@@ -83,6 +84,12 @@ final class Room {
       s.append(' ').append(x.cough(k / 6, k % 6));
     }
     return s.toString();
+  }
+
+  private static void tellBetter(RainRead x, StringBuilder s) {
+    s.append(" whole ").append(x.whole(-1)).append(" saved ").append(x.saved(15, 3)).append(" most ").append(x.most(-1));
+    s.append(" strayed ").append(x.strayed(1, 1)).append(" misprint ").append(x.misprint(1, 9, 0));
+    s.append(" rests ").append(x.rests(3, 0, 0)).append(" odds ").append(x.odds(0, 1, 0));
   }
 
   private static void tellSheet(RainRead x, int k, StringBuilder s) {

@@ -145,6 +145,14 @@ public final class ShowerEdgeTest {
     C.due("of mud", y.ofLine(3, 4), 0);
     C.due("of what is turned", y.ofLine(4, 4), 17);
     C.due("of what is lost", y.ofLine(2, 4), 7);
+    RainRead fell = Check.of("s,50,31;p10;p11");
+    C.due("it falls", fell.ofLine(0, 4), 5);
+    fell.begin(1, 0);
+    C.due("it is mud now", fell.ofLine(0, 4), 0);
+    fell.begin(1, 1);
+    C.due("it falls again", fell.ofLine(0, 4), 5);
+    fell.begin(0, 1);
+    C.due("it hangs now", fell.ofLine(0, 4), 0);
     C.says(3, "UNKNOWN; OUTSIDE");
     C.refuses("line", Room::wet, Check.UNKNOWN, (z, v) -> z.ofLine(v, 0), -1, 5, 6, Check.LEAST, Check.GREATEST);
     C.refuses("what", Room::wet, Check.OUTSIDE, (z, v) -> z.ofLine(4, v), -1, 5, Check.LEAST, Check.GREATEST);

@@ -241,6 +241,7 @@ public final class TermsTest {
     C.due("a kind for a crier's sign", taken("s,00p10"), -104);
     C.due("a line behind a crier", taken("s,00;p10,00"), -108);
     C.due("a second s", taken("ss,00;p10"), -101);
+    everyCodeAtEveryPlace();
     C.says(0, "(the comma of a seventh LINE, the ; of a fourth CRIER)");
     C.due("the comma alone", taken("s,00,00,00,00,00,00,"), -119);
     C.due("the line", taken("s,00,00,00,00,00,00,00"), -119);
@@ -274,6 +275,29 @@ public final class TermsTest {
     }
   }
 
+  /** One code of a text becomes another one: at each place those with which a text goes on, and all others. */
+  private static void everyCodeAtEveryPlace() {
+    String text = "s,93,00;p11;m20";
+    String[] goOn = {"s", ",", "0123456789", "0123", ",;", "0123456789", "0123", ",;", "pmc", "123", "01", ";", "pmc", "123", "01"};
+    for (int place = 0; place < text.length(); place++) {
+      for (char code = 0; code < 128; code++) {
+        boolean isSign = goOn[place].length() == 2 && goOn[place].equals(",;");
+        int due = goOn[place].indexOf(code) < 0 ? -100 - place : isSign && code != text.charAt(place) ? -101 - place : 2;
+        String other = text.substring(0, place) + code + text.substring(place + 1);
+        C.due("code " + (int) code + " at " + place, taken(other), due);
+      }
+    }
+    C.due("a line without digits", taken("s,;p10"), -102);
+    C.due("a line without digits", taken("s,,00;p10"), -102);
+    C.due("a line without a field", taken("s,9;p10"), -103);
+    C.due("a line without a field", taken("s,9,00;p10"), -103);
+    C.due("a crier without a kind", taken("s,00;10"), -105);
+    C.due("a crier without any", taken("s,00;;p10"), -105);
+    C.due("a crier without a pace", taken("s,00;p;p10"), -106);
+    C.due("a crier without a start", taken("s,00;p1;p10"), -107);
+    C.due("no s", taken(",00;p10"), -100);
+  }
+
   private static void kindsOfText() {
     C.says(0, "Kinds: 0 PLAIN (p); 1 MUMBLING (m), a PLAIN one; 2 CHANTING (c), a MUMBLING one");
     for (int code = 0; code < 128; code++) {
@@ -290,6 +314,9 @@ public final class TermsTest {
   private static void allAnew() {
     C.says(0, "A TEXT that is taken makes all anew: nobody COUGHS, no READINGS");
     RainRead x = Room.full();
+    // What is asked of coughs and other starts ahead of it must leave nothing behind.
+    x.day(1, 1, 0, 3, 0);
+    x.most(-1);
     C.due("the same text again", x.shower(0, 0, 0, 28), 3);
     C.due("coughs", x.many(2), 0);
     C.due("readings", x.many(4), 0);
