@@ -13,34 +13,62 @@ import java.util.regex.Pattern;
 /** The public face is the document's and no more, and the source keeps to what can be seen of LANGUAGE.md. */
 public final class FaceTest {
   private static final Check C = new Check();
-  private static final String FACE = "int shower 4,int ofLine 2,int ofCrier 2,int print 2,int begin 2,int cough 2,"
-      + "int comes 2,int wet 1,int day 5,int whole 1,int most 1,int strayed 2,int saved 2,int misprint 3,int rests 3,"
-      + "int reading 2,int back 1,int kinds 1,int paces 1,int starts 1,long odds 3,int sheet 3,int lose 1,int put 3,"
-      + "long cell 3,int copy 5,int tell 1,int bribe 1,int as 2,int trace 0,int fault 0,int many 1";
+  /** What the class uses of the library; LANGUAGE.md allows it (rule 4). */
+  private static final Set<String> LIBRARY = Set.of("Arrays.fill", "System.arraycopy", "Math.max", "Integer.bitCount",
+      "Long.MIN_VALUE");
 
   public static void main(String[] args) throws Exception {
-    constants();
-    methods();
-    fields();
+    constants(face());
+    methods(face());
     nested();
     source();
+    library();
+    made();
     C.end("FaceTest");
   }
 
-  private static void constants() {
-    C.due("UNKNOWN", RainRead.UNKNOWN, -1);
-    C.due("OUTSIDE", RainRead.OUTSIDE, -2);
-    C.due("STATE", RainRead.STATE, -3);
-    C.due("FULL", RainRead.FULL, -4);
-    C.due("NONE", RainRead.NONE, -9);
-    C.due("LOST", RainRead.LOST, Long.MIN_VALUE);
+  /** The rows of the document's face: constants, the constructor, methods. */
+  private static Set<String> face() throws Exception {
+    String doc = Files.readString(Path.of("../shared/DOC.md"));
+    int begin = doc.indexOf("public final class RainRead {\n");
+    Set<String> rows = new TreeSet<>();
+    for (String row : doc.substring(begin, doc.indexOf("\n}", begin)).split("\n")) {
+      rows.add(row.trim());
+    }
+    return rows;
   }
 
-  private static void methods() {
-    Set<String> due = new TreeSet<>(Arrays.asList(FACE.split(",")));
+  private static void constants(Set<String> face) throws Exception {
+    Set<String> found = new TreeSet<>();
+    for (Field f : RainRead.class.getDeclaredFields()) {
+      int mods = f.getModifiers();
+      holds(f + " is final, if static", Modifier.isFinal(mods) || !Modifier.isStatic(mods));
+      if (!Modifier.isPrivate(mods)) {
+        holds(f + " is a public constant", Modifier.isPublic(mods) && Modifier.isStatic(mods));
+        long value = f.getLong(null);
+        found.add(f.getType() + " " + f.getName() + " = " + (value == Long.MIN_VALUE ? "Long.MIN_VALUE" : value));
+      }
+    }
+    Set<String> due = new TreeSet<>();
+    for (String row : face) {
+      Matcher m = Pattern.compile("public static final (\\w+) (.*);").matcher(row);
+      for (String one : m.matches() ? m.group(2).split(", ") : new String[0]) {
+        due.add(m.group(1) + " " + one);
+      }
+    }
+    C.due("constants", found.toString(), due.toString());
+    C.due("how many constants", found.size(), 6);
+  }
+
+  private static void methods(Set<String> face) {
+    Set<String> due = new TreeSet<>();
     Set<String> names = new TreeSet<>();
-    for (String one : due) {
-      names.add(one.split(" ")[1]);
+    for (String row : face) {
+      Matcher m = Pattern.compile("public (int|long) (\\w+)\\((.*)\\);").matcher(row);
+      if (m.matches()) {
+        due.add(m.group(1) + " " + m.group(2) + " [" + m.group(3).replaceAll("(\\w+) \\w+", "$1") + "]");
+        names.add(m.group(2));
+      }
     }
     Set<String> found = new TreeSet<>();
     for (Method m : RainRead.class.getDeclaredMethods()) {
@@ -48,40 +76,58 @@ public final class FaceTest {
         holds("private " + m.getName() + " bears no public name", !names.contains(m.getName()));
       } else {
         holds(m + " is public, not static", Modifier.isPublic(m.getModifiers()) && !Modifier.isStatic(m.getModifiers()));
-        holds(m + " takes ints", Arrays.stream(m.getParameterTypes()).allMatch(t -> t == int.class));
-        found.add(m.getReturnType() + " " + m.getName() + " " + m.getParameterCount());
+        found.add(m.getReturnType() + " " + m.getName() + " " + Arrays.toString(m.getParameterTypes()));
       }
     }
-    holds("the face is " + due + ", found " + found, found.equals(due));
+    C.due("methods", found.toString(), due.toString());
+    C.due("how many methods", found.size(), 32);
     Constructor<?>[] made = RainRead.class.getDeclaredConstructors();
     holds("one public constructor", made.length == 1 && Modifier.isPublic(made[0].getModifiers()));
+    holds("it takes nothing", made.length == 1 && made[0].getParameterCount() == 0 && face.contains("public RainRead();"));
     holds("public and final", Modifier.isPublic(RainRead.class.getModifiers()) && Modifier.isFinal(RainRead.class.getModifiers()));
   }
 
-  private static void fields() {
-    Set<String> seen = new TreeSet<>();
-    for (Field f : RainRead.class.getDeclaredFields()) {
-      int mods = f.getModifiers();
-      holds(f + " is final, if static", Modifier.isFinal(mods) || !Modifier.isStatic(mods));
-      if (!Modifier.isPrivate(mods)) {
-        seen.add(f.getType() + " " + f.getName());
-      }
-    }
-    holds("constants: " + seen, seen.equals(new TreeSet<>(Arrays.asList("int UNKNOWN", "int OUTSIDE", "int STATE",
-        "int FULL", "int NONE", "long LOST"))));
-  }
-
   private static void nested() {
+    sizes(RainRead.class);
     holds("at most eleven classes inside", RainRead.class.getDeclaredClasses().length <= 11);
     for (Class<?> inside : RainRead.class.getDeclaredClasses()) {
       holds(inside + " is static", Modifier.isStatic(inside.getModifiers()));
+      sizes(inside);
       holds(inside + " is not open to others", !Modifier.isPublic(inside.getModifiers()) && !Modifier.isProtected(inside.getModifiers()));
+    }
+  }
+
+  private static void sizes(Class<?> one) {
+    long fields = Arrays.stream(one.getDeclaredFields()).filter(f -> !Modifier.isStatic(f.getModifiers())).count();
+    holds(one + " has at most twenty fields", fields <= 20);
+    for (Method m : one.getDeclaredMethods()) {
+      holds(m + " takes at most seven", m.getParameterCount() <= 7);
+    }
+  }
+
+  private static String code() throws Exception {
+    String all = Files.readString(Path.of("src/main/java/RainRead.java"));
+    return all.replaceAll("(?s)/\\*.*?\\*/", " ").replaceAll("//[^\n]*", " ");
+  }
+
+  private static void library() throws Exception {
+    Matcher m = Pattern.compile("\\b(?<!\\.)([A-Z][a-z]\\w*\\.\\w+)").matcher(code());
+    while (m.find()) {
+      holds("the library's " + m.group(1), LIBRARY.contains(m.group(1)));
+    }
+  }
+
+  /** All calls of a run share one room: rows are made by constructors alone, so what a run makes does not grow. */
+  private static void made() throws Exception {
+    for (String row : code().split("\n")) {
+      boolean byConstructor = row.matches(" +(private )?final \\S+ \\w+ = new .*;") || row.equals("      sheets[k] = new Sheet();");
+      holds("made by a constructor: " + row, !row.contains("new ") || byConstructor);
     }
   }
 
   private static void source() throws Exception {
     String all = Files.readString(Path.of("src/main/java/RainRead.java"));
-    String code = all.replaceAll("(?s)/\\*.*?\\*/", " ").replaceAll("//[^\n]*", " ");
+    String code = code();
     Matcher m = Pattern.compile("\\b(throw|throws|try|catch|synchronized|assert|package|hashCode|toString)\\b|->|::|Exact\\b").matcher(code);
     holds("no word that the rules leave out, but found " + (m.find() ? m.group() : ""), m.reset().results().count() == 0);
     Matcher imports = Pattern.compile("import ([^;]*);").matcher(code);
